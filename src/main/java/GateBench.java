@@ -1,4 +1,3 @@
-import java.util.Arrays;
 import java.util.NoSuchElementException;
 
 /**
@@ -295,7 +294,9 @@ public final class GateBench {
         }
 
         void forgetAims() {
-            Arrays.fill(matters, 0, formulas, false);
+            for (int f = 0; f < formulas; f++) {
+                matters[f] = false;
+            }
         }
 
         void aimAt(int formula) {
@@ -544,11 +545,17 @@ public final class GateBench {
             return false;
         }
 
-        /** A clause of no or one literal has nothing to watch: it clashes or forces at once. */
-        private int takeUpClauses() {
+        private void startAnew() {
             trail.restart();
             followed = 0;
-            Arrays.fill(firstWatch, 0, 2 * circuit.formulas, NONE);
+            for (int literal = 0; literal < 2 * circuit.formulas; literal++) {
+                firstWatch[literal] = NONE;
+            }
+        }
+
+        /** A clause of no or one literal has nothing to watch: it clashes or forces at once. */
+        private int takeUpClauses() {
+            startAnew();
             int clash = NONE;
             for (int clause = 0; clause < clauses.total; clause++) {
                 int size = clauses.sizeOf(clause);

@@ -94,6 +94,13 @@ public final class CheckerTest {
         lesson(clauses, 3);
         step(checker, lesson(clauses), 0, 1);
         Due.is("a refutation that rests on a lesson never shown", false, checker.hasRefutation());
+        clauses.removeAll();
+        clauses.add(2, 0, 0);
+        checker.begin();
+        lesson(clauses, 3);
+        step(checker, lesson(clauses, 2), 0);
+        step(checker, lesson(clauses), 0, 1);
+        Due.is("one that hides behind a lesson which follows", false, checker.hasRefutation());
     }
 
     private static void beginsAnew() {
