@@ -27,6 +27,13 @@ final class Due {
         is(what, due, answerOf(call));
     }
 
+    /** The call throws, and what can be seen of the bench is then as it was before. */
+    static void refused(String what, String due, GateBench x, Call call) {
+        String before = Benches.stateOf(x);
+        call(what, due, call);
+        is(what + ", state behind it,", before, Benches.stateOf(x));
+    }
+
     /** What the call answers, or the name of what it throws behind "throws.". */
     static Object answerOf(Call call) {
         try {

