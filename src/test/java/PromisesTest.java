@@ -273,9 +273,9 @@ public final class PromisesTest {
         Due.is("11: always true", true, x.same(x.join(1, 1, x.not(1)), x.not(0)));
         Due.is("11: inputs stay", "10", Benches.inputsOf(x));
         x.want(0);
+        int formulas = x.count(0);
         Due.is("11: the list plays no part", false, x.same(1, 2));
         Due.is("11: list stays", 1, x.count(2));
-        int formulas = x.count(0);
         Due.is("11: it makes no formula", formulas, x.count(0));
     }
 
